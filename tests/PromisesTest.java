@@ -192,6 +192,8 @@ public final class PromisesTest {
         officeFault(" ".repeat(897) + "personal;", 897, 1);
         officeFault("person a;" + " ".repeat(880) + "person a" + " ".repeat(9), 896, 3);
         officeFault(" ".repeat(898) + "personx;", 898, 1);
+        officeFault("person a;" + " ".repeat(884) + "person a;", 900, 1);
+        officeFault("person a;" + " ".repeat(883) + "person a;", 899, 3);
         due("4 the last byte is the 900th", Desk.office(x, " ".repeat(891) + "person a;"), 1);
     }
 
@@ -1094,6 +1096,13 @@ public final class PromisesTest {
         due("40 of another OFFICE", x.restore(0), true);
         dueLike("40 of another OFFICE", x, like);
         Desk.dueText("40 its NAMES", Desk.stamped(x, 2), "bath is clear");
+        Desk.sentence(x, "voided or ".repeat(19) + "number=1");
+        due("40 a long SENTENCE", x.fault(), 0);
+        x.image(1);
+        Desk.sentence(x, "filed or ".repeat(19) + "clear");
+        x.restore(1);
+        due("40 a long SENTENCE", x.said(-1), 1);
+        due("40 a long SENTENCE", x.said(0), 1);
         TriplicateForms y = new TriplicateForms();
         y.days(1);
         due("40 nothing is kept", y.restore(0), false);

@@ -1394,13 +1394,20 @@ public final class TriplicateForms {
                 int slot = slotOf(p, f);
                 if (isFree(slot, tried)) {
                     tried |= 1 << slot;
-                    if (holders[slot] == NONE || findSlot(holders[slot], depth + 1)) {
+                    if (canBeLeft(slot, depth)) {
                         holders[slot] = p;
                         return true;
                     }
                 }
             }
             return false;
+        }
+
+        private boolean canBeLeft(int slot, int depth) {
+            if (slot < 0 || slot >= holders.length) {
+                return false;
+            }
+            return holders[slot] == NONE || findSlot(holders[slot], depth + 1);
         }
     }
 
@@ -1622,7 +1629,7 @@ public final class TriplicateForms {
             lines = 0;
             in.begin(MOST_BOOK);
             boolean good = true;
-            while (good && lines <= MOST_LINES && in.kind != Tape.END) {
+            for (int line = 0; line <= MOST_LINES && good && in.kind != Tape.END; line++) {
                 good = readLine(in, roster);
             }
         }
@@ -1793,15 +1800,11 @@ public final class TriplicateForms {
                 return in.refuse(ONE_TOO_MANY);
             }
             ones++;
-            if (in.isMark('(')) {
-                in.advance();
-                return readCond(in, roster, within + 1) && in.takeMark(')');
+            if (in.isMark('(') || in.isWord(Word.NOT)) {
+                return readOuterOne(in, roster, within);
             }
             Word word = in.meaning;
             in.advance();
-            if (word == Word.NOT) {
-                return readOne(in, roster, within + 1) && write(NOT, 0, 0);
-            }
             if (word == Word.ABOUT || word == Word.HURTS || word == Word.SIGNED) {
                 return readPersonsOne(in, roster, word);
             }
@@ -1809,6 +1812,23 @@ public final class TriplicateForms {
                 return readNumbersOne(in, word);
             }
             return word == Word.CLEAR ? write(IS_CLEAR, 0, 0) : write(IS, howNamed(word), 0);
+        }
+
+        /** A ONE that has others within. */
+        private boolean readOuterOne(Tape in, Roster roster, int within) {
+            boolean not = in.isWord(Word.NOT);
+            in.advance();
+            if (not) {
+                return readOne(in, roster, within + 1) && write(NOT, 0, 0);
+            }
+            if (!readCond(in, roster, within + 1)) {
+                return false;
+            }
+            if (!in.isMark(')')) {
+                return in.refuse(NOT_A_TOKEN);
+            }
+            in.advance();
+            return true;
         }
 
         private static boolean beginsOne(Word word) {
