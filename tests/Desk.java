@@ -107,4 +107,30 @@ final class Desk {
     static void dueText(String call, String got, String want) {
         due(call + " is '" + got + "', like '" + want + "'", got.equals(want), true);
     }
+
+    /** The days drawn once more, by the calls of the face. */
+    static int drawByHand(TriplicateForms x, int n, int seed) {
+        int[] state = {seed};
+        int gone = 0;
+        for (int day = 0; day < n && x.now(0) < 400; day++) {
+            for (int p = 0; p < x.count(0); p++) {
+                if (x.count(1) > 0) {
+                    x.sign(p, next(state, x.count(1)));
+                }
+                int whim = next(state, 6);
+                if (whim == 0) {
+                    x.resent(p, next(state, x.count(0)));
+                } else if (whim == 1) {
+                    x.soften(p, next(state, x.count(0)));
+                }
+            }
+            gone += x.days(1);
+        }
+        return gone;
+    }
+
+    private static int next(int[] state, int n) {
+        state[0] = state[0] * 1103515245 + 12345;
+        return (state[0] >>> 8) % n;
+    }
 }

@@ -780,32 +780,6 @@ public final class PromisesTest {
         Desk.dueText("31", Desk.stamped(y, 0), "zyxwvut wants third");
     }
 
-    /** The days drawn once more, by the calls of the face. */
-    private static int drawByHand(TriplicateForms x, int n, int seed) {
-        int[] state = {seed};
-        int gone = 0;
-        for (int day = 0; day < n && x.now(0) < 400; day++) {
-            for (int p = 0; p < x.count(0); p++) {
-                if (x.count(1) > 0) {
-                    x.sign(p, next(state, x.count(1)));
-                }
-                int whim = next(state, 6);
-                if (whim == 0) {
-                    x.resent(p, next(state, x.count(0)));
-                } else if (whim == 1) {
-                    x.soften(p, next(state, x.count(0)));
-                }
-            }
-            gone += x.days(1);
-        }
-        return gone;
-    }
-
-    private static int next(int[] state, int n) {
-        state[0] = state[0] * 1103515245 + 12345;
-        return (state[0] >>> 8) % n;
-    }
-
     private static void dueLike(String call, TriplicateForms x, TriplicateForms y) {
         for (int what = 0; what < 8; what++) {
             due(call + ": now(" + what + ")", x.now(what), y.now(what));
@@ -828,12 +802,12 @@ public final class PromisesTest {
         for (int seed : new int[] {0, 1, -7, 123456789, Integer.MIN_VALUE}) {
             TriplicateForms y = Desk.with(OFFICE);
             TriplicateForms z = Desk.with(OFFICE);
-            due("33 drawn", y.drawn(4, seed), drawByHand(z, 4, seed));
+            due("33 drawn", y.drawn(4, seed), Desk.drawByHand(z, 4, seed));
             dueLike("33 drawn by " + seed, y, z);
         }
         TriplicateForms formless = Desk.with("person a;person b;");
         TriplicateForms like = Desk.with("person a;person b;");
-        due("33 no FORMS", formless.drawn(20, 3), drawByHand(like, 20, 3));
+        due("33 no FORMS", formless.drawn(20, 3), Desk.drawByHand(like, 20, 3));
         dueLike("33 no FORMS", formless, like);
         TriplicateForms y = Desk.with(OFFICE);
         due("33 0", y.drawn(0, 1), NONE);
