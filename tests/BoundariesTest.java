@@ -98,6 +98,7 @@ public final class BoundariesTest {
         refusedActs();
         daysGoBy();
         undoKeepsEight();
+        undoOfEachAct();
     }
 
     private static void promisesOfAnswers() {
@@ -633,6 +634,7 @@ public final class BoundariesTest {
         due("DAYS that are left, if it is FILED", saidOf(x, "days=1"), 3);
         x.cancel(0);
         due("else as told", saidOf(x, "days=2"), 1);
+        due("VOIDED, all parts are signed still", saidOf(x, "parts=3"), 1);
         x.undo();
         x.days(1);
         due("0 if it is GRANTED", saidOf(x, "days=0"), 1);
@@ -1660,6 +1662,42 @@ public final class BoundariesTest {
         due("none was drawn", y.drawn(1, 1) == 0 ? y.undo() : 9, 6);
     }
 
+    /** Promise 18: "The latest of sign(), .. drawn() above 0, a BOOK of which a LINE was lived is undone" */
+    private static void undoOfEachAct() {
+        TriplicateForms x = Desk.with(OFFICE);
+        String book = "c returns;b softens a;day 1;a resents e;void f;";
+        file(x, 0, 0, 1, 3);
+        x.cancel(1);
+        Desk.book(x, book, 0);
+        for (int act = 0; act < 10; act++) {
+            String before = picture(x);
+            switch (act) {
+                case 0 -> due("lodge", x.lodge(1), 0);
+                case 1 -> due("soften", x.soften(1, 0), 0);
+                case 2 -> due("resent", x.resent(1, 0), 0);
+                case 3 -> due("retire", x.retire(4), 0);
+                case 4 -> due("back", x.back(3), 0);
+                case 5 -> due("cancel", x.cancel(0), 0);
+                case 6 -> due("days", x.days(60), 60);
+                case 7 -> due("drawn", x.drawn(60, 7), 60);
+                case 8 -> due("a BOOK", Desk.book(x, book, 1), NONE);
+                default -> due("sign", x.lodge(1) == 0 ? x.sign(2, 1) : 9, 0);
+            }
+            due("act " + act + " did something", picture(x).equals(before), false);
+            due("act " + act + ": more", x.undo(), act < 9 ? 4 : 5);
+            if (act == 9) {
+                due("lodge, too", x.undo(), 4);
+            }
+            dueAsBefore("act " + act + " undone", x, before);
+        }
+        due("cancel", x.undo(), 3);
+        for (int part = 2; part >= 0; part--) {
+            due("FILED no more", x.undo(), part);
+        }
+        due("none of it is signed", x.form(0, 2) + x.form(0, 3) + x.form(0, 4), -3);
+        due("nobody signed so far", x.person(0, 2) + x.person(1, 2) + x.person(3, 2), 0);
+    }
+
     // ------------------------------------------------------------------ Promises 19 to 34
 
     /** Promise 19: "The part .. that a PERSON could sign, if nobody signed on this DAY ..; NONE: none, no such ones." */
@@ -1843,7 +1881,9 @@ public final class BoundariesTest {
         y = onDay(392, "person a;person b;person c retired;grudge b a 1;form f a 9;");
         file(y, 0, 0, 1, 2);
         due("FILED, 9 from 392: DAYS are over", y.odds(0, 30, 5), 0);
-        due("all stays", y.now(0), 392);
+        String before = picture(y);
+        y.odds(0, 30, 99);
+        dueAsBefore("odds", y, before);
     }
 
     /** FORMS that take so long that some seeds' DAYS are too few. */
@@ -1880,8 +1920,13 @@ public final class BoundariesTest {
      */
     private static void bookLives() {
         TriplicateForms x = Desk.with(OFFICE);
+        x.sign(0, 0);
         due("judged", Desk.book(x, "a retires;e retires;a retires;", 0), 2);
+        String before = picture(x);
+        due("judged again", Desk.book(x, "a retires;e retires;a retires;", 0), 2);
+        dueAsBefore("a BOOK that is judged", x, before);
         due("all stays", x.now(6), 12);
+        due("a BOOK that is judged is not undone", x.undo(), 0);
         due("lived as far", Desk.book(x, "a retires;e retires;a retires;e returns;", 1), 2);
         due("two LINES were", x.now(6), 29);
         due("WRONG in the first", Desk.book(x, "a retires;day 1;", 1), 0);
@@ -2022,8 +2067,17 @@ public final class BoundariesTest {
         x.book(5);
         x.stamp(1);
         x.match();
+        resent(x, 4, 1, 1);
+        x.cover();
+        x.end(0);
+        Desk.fits(x, 4);
+        Desk.book(x, "e signs g;e signs g;", 0);
+        Desk.feed(x, "abcdefg");
         due("restore 0", x.restore(0), true);
         due("z alone", x.count(0), 1);
+        due("ask stays", x.ask(), 2);
+        due("covering stays", x.covering(), 8);
+        due("told stays", x.told(0), 2);
         due("no SENTENCE", x.said(NONE), NONE);
         due("the RULE", x.count(2), 0);
         due("the tape stays", x.count(3), 7);
