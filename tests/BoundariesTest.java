@@ -322,6 +322,11 @@ public final class BoundariesTest {
         due("b's against a", x.grudge(1, 0), 9);
         x = Desk.with(two + "grudge a b 2;");
         due("0 without", x.grudge(1, 0), 0);
+        due("each two once in each OFFICE", Desk.office(x, two + "grudge a b 1;grudge b a 2;"), 4);
+        due("a FAULT behind it", Desk.office(x, two + "grudge a b 9;grudge b a 9;;"), -45);
+        due("as told ahead of it", x.grudge(1, 0), 2);
+        due("none of it in the next one", Desk.office(x, two), 2);
+        due("no grudges", x.now(7), 0);
         officeFault(two + "grudge a b 0;", 29, 2);
         officeFault(two + "grudge a b 000;", 29, 2);
         officeFault(two + "grudge a b 10;", 29, 2);
@@ -344,6 +349,11 @@ public final class BoundariesTest {
         officeFault(two + "shy a a;", 24, 3);
         officeFault(two + "shy a b;shy a b;", 32, 3);
         officeFault(two + "shy a b 1;", 26, 1);
+        due("each two once in each OFFICE", Desk.office(x, two + "shy a b;shy b a;"), 4);
+        due("a FAULT behind it", Desk.office(x, two + "shy a b;shy b a;;"), -35);
+        due("none of it in the next one", Desk.office(x, two), 2);
+        due("a is shy of nobody", x.person(0, 4), 0);
+        due("b is shy of nobody", x.person(1, 4), 0);
         x = Desk.with(EIGHT + "shy h a;shy h g;shy a h;");
         due("h is shy of the first and the last but one", x.person(7, 4), 65);
         due("a is shy of the last", x.person(0, 4), 128);
